@@ -163,6 +163,9 @@ public final class AheadTest {
         checks.due(23, "cheapest(1, 1, 0)", x.cheapest(1, 1, 0), TideTreaty.NONE);
         checks.due(23, "cheapest(1, 1, 1)", x.cheapest(1, 1, 1), TideTreaty.NONE);
         checks.due(23, "status(0)", x.status(0), 0);
+        x.dike(0, 0);
+        x.want(0, 9);
+        checks.due(23, "cheapest(1, 1, 0), all nine", x.cheapest(1, 1, 0), 9);
         // A later year wants more than the first.
         x.coast(1);
         x.want(5, 8);

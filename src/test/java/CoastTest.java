@@ -143,6 +143,7 @@ public final class CoastTest {
         checks.due(6, "storm(9)", x.storm(9), 5);
         for (int n : new int[] {0, 10, -1, HUGE, LOW}) checks.due(6, "moon(" + n + ")", x.moon(n), TideTreaty.BAD);
         checks.due(6, "count(3)", x.count(3), 9);
+        checks.due(6, "status(0)", x.status(0), 5);
     }
 
     private static void bells() {
@@ -151,6 +152,7 @@ public final class CoastTest {
         checks.due(7, "bells(999)", x.bells(999), 0);
         for (int n : new int[] {1000, -1, HUGE, LOW}) checks.due(7, "bells(" + n + ")", x.bells(n), TideTreaty.BAD);
         checks.due(7, "count(2)", x.count(2), 999);
+        checks.due(7, "status(0)", x.status(0), 4);
     }
 
     private static void treaty() {

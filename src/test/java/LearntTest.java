@@ -24,6 +24,7 @@ public final class LearntTest {
         checks.due(28, "a seventh", x.tide(0, 0, true), TideTreaty.FULL);
         checks.due(28, "a wrong seventh", x.tide(8, 0, true), TideTreaty.BAD);
         checks.due(28, "count(5)", x.count(5), 6);
+        checks.due(28, "status(0)", x.status(0), wrong.length + 1);
         checks.due(28, "status(2)", x.status(2), 1);
     }
 
@@ -53,13 +54,13 @@ public final class LearntTest {
     private static void learntByDikes() {
         TideTreaty x = new TideTreaty();
         x.coast(2);
-        x.tide(3, 1, true);
-        checks.due(29, "learnt(3, 0), 3 to 15", x.learnt(3, 0), 13);
+        x.tide(7, 1, true);
+        checks.due(29, "learnt(7, 0), 3 to 15", x.learnt(7, 0), 13);
         x.dike(1, 9);
-        checks.due(29, "learnt(3, 0), 12 to 15", x.learnt(3, 0), 4);
+        checks.due(29, "learnt(7, 0), 12 to 15", x.learnt(7, 0), 4);
         x.dike(0, 9);
         x.cell(0, 9, 10, 0);
-        checks.due(29, "learnt(3, 0), 19 is too high", x.learnt(3, 0), 0);
+        checks.due(29, "learnt(7, 0), 19 is too high", x.learnt(7, 0), 0);
     }
 
     private static void shells() {

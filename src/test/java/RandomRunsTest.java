@@ -2,7 +2,8 @@ import java.util.Random;
 
 /** Runs of calls by a fixed seed, each answer and each state behind it compared with the model's. */
 public final class RandomRunsTest {
-    private static final int RUNS = 600, CALLS = 512;
+    /** Each call is followed by digest(), and an object serves 512 calls. */
+    private static final int RUNS = 1200, CALLS = 250;
     private static final String[] PIECES = {"coast ", "cell ", "dike ", "want ", "moon ", "treaty ", ";", " ", "0 ", "1 ",
         "5 ", "12", "100 ", "sea ", "coast 4;", "moon 3;", "dike 0 3;", "cell 1 4 50 2;", "treaty 3 0 1 0 9 7;", "-", "X"};
     private static final Checks checks = new Checks();
@@ -62,7 +63,7 @@ public final class RandomRunsTest {
 
     /** The greatest number that each argument may be, about. */
     private int[] most(int which) {
-        int n = x.count(0);
+        int n = model.count(0);
         switch (which) {
             case 0: return new int[] {random.nextInt(4) == 0 ? 8 : 0};
             case 1: return new int[] {n - 1, 9, 99, 2};

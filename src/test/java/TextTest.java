@@ -9,6 +9,8 @@ public final class TextTest {
         faults();
         refusedItems();
         readingIsNoRefusal();
+        bytesOfAnOlderText();
+        fullTexts();
         checks.finish();
     }
 
@@ -22,6 +24,7 @@ public final class TextTest {
         for (int i = 3; i <= 150; i++) checks.due(10, "type(' ')", x.type(' '), i);
         checks.due(10, "type(' '), full", x.type(' '), TideTreaty.FULL);
         checks.due(10, "type(-1), full", x.type(-1), TideTreaty.BAD);
+        checks.due(10, "status(0)", x.status(0), 5);
         checks.due(10, "status(2)", x.status(2), 1);
         checks.due(10, "count(7)", x.count(7), 150);
     }
@@ -130,6 +133,41 @@ public final class TextTest {
         refusedItem("coast 3; treaty 0 0 0 0 0 21;", 1);
         String six = "treaty 0 0 0 0 0 0;".repeat(6);
         refusedItem("coast 1;" + six + "treaty 1 0 0 0 0 0;", 7);
+    }
+
+    /** What stood behind the end before the text was cleared is no part of it. */
+    private static void bytesOfAnOlderText() {
+        TideTreaty x = new TideTreaty();
+        Checks.type(x, "coast 55");
+        Checks.type(x, "coast 5");
+        checks.due(12, "read()", x.read(), -10 - 7);
+        Checks.type(x, "coast 5;    moon 4;");
+        Checks.type(x, "coast 5; ");
+        checks.due(12, "read()", x.read(), 1);
+        Checks.type(x, "coast 3; moon 4;");
+        Checks.type(x, "coast 3; moo");
+        checks.due(12, "read()", x.read(), -10 - 9);
+    }
+
+    /** A text of 150 bytes, on an object of its own: an object serves 512 calls. */
+    private static void full(String text, int due) {
+        TideTreaty x = new TideTreaty();
+        Checks.type(x, text);
+        checks.due(12, "count(7)", x.count(7), 150);
+        checks.due(12, "read() of '" + text + "'", x.read(), due);
+    }
+
+    private static void fullTexts() {
+        String items = "coast1;" + "moon1;".repeat(22);
+        full(items + " moon 10;  ", -1000 - 23);
+        full(items + "    moon 2;", 24);
+        full(items + "  moon 2;  ", 24);
+        full(items + "    moon 12", -10 - 150);
+        full(items + "       moon", -10 - 150);
+        full(items + "        moo", -10 - 147);
+        full(";".repeat(150), -10);
+        full(" ".repeat(150), -10 - 150);
+        full("coast1;" + "moon1;".repeat(23) + "    ;", -10 - 149);
     }
 
     private static void readingIsNoRefusal() {

@@ -110,10 +110,13 @@ public final class YearsTest {
         for (int n : new int[] {0, 10, -1, HUGE}) checks.due(13, "year(" + n + ")", x.year(n), TideTreaty.BAD);
         for (int i = 0; i < 100; i++) x.year(9);
         checks.due(13, "count(1)", x.count(1), 900);
+        x.year(1);
+        checks.due(13, "year(1), in year 901", x.year(1), TideTreaty.NO);
+        x.undo();
         checks.due(13, "year(9), in year 900", x.year(9), 999);
         checks.due(13, "year(1), in year 909", x.year(1), TideTreaty.NO);
         checks.due(13, "year(0), in year 909", x.year(0), TideTreaty.BAD);
-        checks.due(13, "status(1)", x.status(1), 1);
+        checks.due(13, "status(1)", x.status(1), 2);
         checks.due(13, "count(1)", x.count(1), 909);
         for (int i = 0; i < 6; i++) x.undo();
         checks.due(14, "count(1)", x.count(1), 903);
@@ -164,6 +167,7 @@ public final class YearsTest {
         checks.due(15, "of(0, 5)", x.of(0, 5), 1);
         int[][] wrong = {{-1, 0}, {6, 0}, {0, -1}, {0, 6}, {HUGE, HUGE}};
         for (int[] w : wrong) checks.due(15, "a wrong of", x.of(w[0], w[1]), TideTreaty.BAD);
+        checks.due(15, "status(0)", x.status(0), wrong.length);
     }
 
     private static void about() {
@@ -188,6 +192,7 @@ public final class YearsTest {
         }
         int[][] wrong = {{-1, 0}, {6, 0}, {0, -1}, {0, 5}, {HUGE, 0}};
         for (int[] w : wrong) checks.due(16, "a wrong about", x.about(w[0], w[1]), TideTreaty.BAD);
+        checks.due(16, "status(0)", x.status(0), wrong.length);
         x.burn(0);
         x.treaty(5, 0, 0, 0, 1, 8);
         checks.due(16, "about(0, 1)", x.about(0, 1), 5);
@@ -203,6 +208,7 @@ public final class YearsTest {
         checks.due(17, "storm(999)", x.storm(999), 8);
         checks.due(17, "storm(994)", x.storm(994), 5);
         for (int y : new int[] {-1, 1000, HUGE}) checks.due(17, "storm(" + y + ")", x.storm(y), TideTreaty.BAD);
+        checks.due(17, "status(0)", x.status(0), 3);
     }
 
     private static void guarded() {
