@@ -10,6 +10,15 @@ final class Checks {
         System.out.println("promise " + promise + ": " + call + " answered " + got + ", due is " + want);
     }
 
+    void dueAll(int promise, String call, long[] got, long[] want) {
+        due(promise, call + ": how many", got.length, want.length);
+        for (int i = 0; i < Math.min(got.length, want.length); i++) {
+            if (got[i] == want[i]) continue;
+            due(promise, call + ": number " + i, got[i], want[i]);
+            return;
+        }
+    }
+
     void finish() {
         System.out.println(wrong == 0 ? compared + " answers are as due" : wrong + " answers are not as due");
         if (wrong != 0) System.exit(1);

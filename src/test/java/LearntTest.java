@@ -58,8 +58,8 @@ public final class LearntTest {
         checks.due(29, "learnt(7, 0), 3 to 15", x.learnt(7, 0), 13);
         x.dike(1, 9);
         checks.due(29, "learnt(7, 0), 12 to 15", x.learnt(7, 0), 4);
-        x.dike(0, 9);
         x.cell(0, 9, 10, 0);
+        x.dike(0, 9);
         checks.due(29, "learnt(7, 0), 19 is too high", x.learnt(7, 0), 0);
     }
 
