@@ -980,6 +980,8 @@ public final class TideTreaty {
         /** How many numbers stand behind each word. */
         private static final int[] NUMBERS_BEHIND = {1, 4, 2, 2, 1, 6};
         private static final int MOST_NUMBERS = 6, MOST_FIGURES = 2;
+        /** The shortest item has six bytes (moon4;): a text holds no more of them. */
+        private static final int MOST_ITEMS = MOST_TEXT / 6;
         /** In place of how many numbers are still due: an item may begin here. */
         private static final int WORD_DUE = -1;
 
@@ -987,8 +989,8 @@ public final class TideTreaty {
         int length;
         int items;
         /** Six places an item, also where it has fewer numbers. */
-        private final int[] numbers = new int[MOST_TEXT * MOST_NUMBERS];
-        private final int[] words = new int[MOST_TEXT];
+        private final int[] numbers = new int[MOST_ITEMS * MOST_NUMBERS];
+        private final int[] words = new int[MOST_ITEMS];
         private int place;
         private int due;
 
@@ -1028,7 +1030,7 @@ public final class TideTreaty {
             int start = place;
             while (place < length && isLetter(bytes[place])) place++;
             int word = wordAt(start, place);
-            if (due != WORD_DUE || word == NONE) return false;
+            if (due != WORD_DUE || word == NONE || items >= MOST_ITEMS) return false;
             if ((word == COAST) != (items == 0)) return false;
             words[items] = word;
             due = NUMBERS_BEHIND[word];

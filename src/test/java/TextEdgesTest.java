@@ -26,6 +26,7 @@ public final class TextEdgesTest {
         lessThanACoastAtFirst();
         readLeavesTheText();
         sixTreatiesAndASeventh();
+        asManyItemsAsThereCanBe();
         checks.finish();
     }
 
@@ -320,5 +321,22 @@ public final class TextEdgesTest {
         checks.due(12, "of(7, 3)", x.of(7, 3), 9);
         readDue("coast 1;" + "treaty 0 0 0 0 0 0;".repeat(6), 7);
         readDue("coast 1;" + "treaty 0 0 0 0 0 0;".repeat(7), -1007);
+    }
+
+    /** 150 bytes of the shortest ITEMS: 24 of them, and 5 bytes that are one more but for its end. */
+    private static void asManyItemsAsThereCanBe() {
+        String most = "coast1;" + "moon1;".repeat(23);
+        readDue(most, 24);
+        readDue(most + "     ", 24);
+        faultDue(most + "moon", 149);
+        faultDue(most + "moon1", 150);
+        faultDue(most + "moons", 145);
+        faultDue(most + "moon;", 149);
+        faultDue(most + ";", 145);
+        readDue("coast1;" + "moon1;".repeat(21) + "moon0;moon2;", -1022);
+        TideTreaty x = new TideTreaty();
+        Checks.type(x, "coast8;" + "moon1;".repeat(22) + "moon9;     ");
+        checks.due(12, "read()", x.read(), 24);
+        checks.due(12, "the last of them is told", x.count(3), 9);
     }
 }
