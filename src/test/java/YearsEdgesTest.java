@@ -28,6 +28,7 @@ public final class YearsEdgesTest {
         undoneExactly();
         sixAtMost();
         undoneAndRunAgain();
+        undoLeavesWhatNoYearChanges();
         askedOfThisYear();
         checks.finish();
     }
@@ -467,6 +468,24 @@ public final class YearsEdgesTest {
         y.year(1);
         y.bells(50);
         checks.due(14, "as if run once", x.digest(), y.digest());
+    }
+
+    /** THE TEXT, IMAGES and STATUS are no part of a YEAR: what came to them behind it stays. */
+    private static void undoLeavesWhatNoYearChanges() {
+        TideTreaty x = new TideTreaty();
+        x.type('c');
+        x.year(2);
+        x.type('o');
+        x.image(0);
+        x.coast(0);
+        checks.due(14, "undo()", x.undo(), 1);
+        checks.due(14, "bytes of the text", x.count(7), 2);
+        checks.due(14, "refused as BAD", x.status(0), 1);
+        checks.due(14, "the image is kept", x.from(0), 1);
+        checks.due(14, "its year", x.count(1), 2);
+        x.clear();
+        x.undo();
+        checks.due(14, "the text is empty still", x.count(7), 0);
     }
 
     /** "(as TREATIES are now)": what is not paid for yet guards. */
